@@ -25,6 +25,7 @@ public final class PromisesTest {
         promise5Match();
         promise5LeastFlitchAndBrokenOrder();
         promise6Apart();
+        promise6ApartOfEight();
         promise7PlaceByKind();
         promise7PlaceShifted();
         promise7PlaceDiamond();
@@ -289,6 +290,25 @@ public final class PromisesTest {
         Check.is("all free", x.match(SLIP, 7), 0);
     }
 
+    private static void promise6ApartOfEight() {
+        LeafMatches x = new LeafMatches();
+        for (int i = 0; i < 32; i++) {
+            x.leaf(0, i, 1, 1);
+        }
+        Check.throwsJust("leaf 32", Check.INDEX, () -> x.pixel(32, 0, 0, 0));
+        Check.throwsJust("leaf 32 reserved", Check.INDEX, () -> x.reserve(32, 0));
+        for (int i = 0; i < 8; i++) {
+            x.match(SLIP, 4);
+        }
+        Check.throwsJust("face 8", Check.INDEX, () -> x.apart(8));
+        Check.throwsJust("about face 8", Check.INDEX, () -> x.about(8, 0));
+        Check.is("the first of eight", x.apart(0), 7);
+        Check.is("the last one moved up", places(x, 6, 0), "28 29 30 31");
+        Check.throwsJust("no eighth", Check.INDEX, () -> x.about(7, 0));
+        Check.is("room for one more", x.match(BOOK, 4), 7);
+        Check.is("the last of eight", x.apart(7), 7);
+    }
+
     private static void promise7PlaceByKind() {
         LeafMatches x = withLeaves(2, 1, 3, 1, 4, 1, 5, 1);
         int[] kinds = {BOOK, SLIP, REVERSED};
@@ -472,37 +492,28 @@ public final class PromisesTest {
         promise10Diamond();
     }
 
+    /** Each row: the two figures (1 is white), and the two shifts of the least sum, the first one due. */
     private static void promise10SeveralLeast() {
-        LeafMatches one = withLeaves(1, 3, 1, 3);
-        column(one, 0, 0, 255, 0, 255);
-        column(one, 1, 0, 0, 255, 0);
-        one.match(SLIP, 2);
-        Check.is("-1 and 1 alike", one.sum(0, 0, -1) + " " + one.sum(0, 0, 1) + " " + one.sum(0, 0, 0), "255 255 765");
-        Check.is("-1 before 1", one.seam(0, 0), -1);
-        LeafMatches two = withLeaves(1, 5, 1, 5);
-        column(two, 0, 0, 255, 0, 0, 0, 255);
-        column(two, 1, 0, 0, 0, 255, 0, 0);
-        two.match(SLIP, 2);
-        long least = two.sum(0, 0, -2);
-        Check.is("-2 and 2 alike", two.sum(0, 0, 2), least);
-        Check.is("of several the one named first", two.seam(0, 0), firstLeast(two));
-        LeafMatches three = withLeaves(1, 4, 1, 4);
-        column(three, 0, 0, 255, 255, 255, 255);
-        column(three, 1, 0, 255, 0, 0, 255);
-        three.match(SLIP, 2);
-        Check.is("three: of several", three.seam(0, 0), firstLeast(three));
-        Check.is("three: 0", three.seam(0, 0), 0);
+        several("1", "11", 0, -1);
+        several("1001", "1", 0, 3);
+        several("10", "01", -1, 1);
+        several("110", "1011", 1, -2);
+        several("0011", "1100", -2, 2);
+        several("00011", "011000", 2, -3);
+        several("111000", "000111", -3, 3);
     }
 
-    private static int firstLeast(LeafMatches x) {
-        int[] turn = {0, -1, 1, -2, 2, -3, 3};
-        int best = 0;
-        for (int shift : turn) {
-            if (x.sum(0, 0, shift) < x.sum(0, 0, best)) {
-                best = shift;
-            }
+    private static void several(String left, String right, int due, int other) {
+        LeafMatches x = withLeaves(1, left.length(), 1, right.length());
+        for (int y = 0; y < left.length(); y++) {
+            x.pixel(0, 0, y, 255 * (left.charAt(y) - '0'));
         }
-        return best;
+        for (int y = 0; y < right.length(); y++) {
+            x.pixel(1, 0, y, 255 * (right.charAt(y) - '0'));
+        }
+        x.match(SLIP, 2);
+        Check.is(due + " and " + other + " alike", x.sum(0, 0, other), x.sum(0, 0, due));
+        Check.is(due + " before " + other, x.seam(0, 0), due);
     }
 
     private static void promise10Diamond() {
