@@ -11,6 +11,10 @@ final class Check {
         Object run();
     }
 
+    interface CallWith {
+        Object run(int value);
+    }
+
     private Check() {
     }
 
@@ -31,6 +35,15 @@ final class Check {
             got = e.getClass();
         }
         is(what, got, due);
+    }
+
+    /** Each of these values in turn, and the least and the greatest int, which are never allowed where this is used. */
+    static void refuses(String what, Class<?> due, CallWith call, int... values) {
+        for (int value : values) {
+            throwsJust(what + " " + value, due, () -> call.run(value));
+        }
+        throwsJust(what + " least int", due, () -> call.run(Integer.MIN_VALUE));
+        throwsJust(what + " greatest int", due, () -> call.run(Integer.MAX_VALUE));
     }
 
     static void done() {

@@ -46,15 +46,6 @@ public final class PromisesTest {
         Check.done();
     }
 
-    /** Leaves of flitch 0 with numbers from 0 on, of these widths and heights in turn. */
-    private static LeafMatches withLeaves(int... widthsAndHeights) {
-        LeafMatches x = new LeafMatches();
-        for (int i = 0; i + 1 < widthsAndHeights.length; i += 2) {
-            x.leaf(0, i / 2, widthsAndHeights[i], widthsAndHeights[i + 1]);
-        }
-        return x;
-    }
-
     /** Flitch 0 with n leaves of 2 columns and 3 rows; every pixel has a grey of its own. */
     private static LeafMatches withDistinctGreys(int n) {
         LeafMatches x = new LeafMatches();
@@ -71,36 +62,6 @@ public final class PromisesTest {
 
     private static int distinctGrey(int leaf, int c, int y) {
         return 1 + leaf * 6 + y * 2 + c;
-    }
-
-    private static void column(LeafMatches x, int leaf, int column, int... greys) {
-        for (int y = 0; y < greys.length; y++) {
-            x.pixel(leaf, column, y, greys[y]);
-        }
-    }
-
-    private static String written(LeafMatches x, int face, int k) {
-        StringBuilder text = new StringBuilder();
-        for (int i = 0; i < 20 && x.number(face, k, i) != NONE; i++) {
-            text.append((char) x.number(face, k, i));
-        }
-        return text.toString();
-    }
-
-    private static String places(LeafMatches x, int face, int what) {
-        StringBuilder text = new StringBuilder();
-        for (int k = 0; k < x.about(face, 2); k++) {
-            text.append(x.place(face, k, what)).append(' ');
-        }
-        return text.toString().trim();
-    }
-
-    private static String plan(LeafMatches x, int wanted) {
-        StringBuilder text = new StringBuilder();
-        for (int k = 0; k < wanted; k++) {
-            text.append(x.planned(k, 0)).append('+').append(x.planned(k, 1)).append(' ');
-        }
-        return text.toString().trim();
     }
 
     private static void theFace() {
@@ -166,7 +127,7 @@ public final class PromisesTest {
     }
 
     private static void promise3Pixel() {
-        LeafMatches x = withLeaves(3, 2, 3, 2);
+        LeafMatches x = Sample.leaves(3, 2, 3, 2);
         Check.is("0 at first", x.pixel(0, 2, 1, 0), false);
         Check.is("another grey", x.pixel(0, 2, 1, 255), true);
         Check.is("the same grey", x.pixel(0, 2, 1, 255), false);
@@ -191,7 +152,7 @@ public final class PromisesTest {
     }
 
     private static void promise4Reserve() {
-        LeafMatches x = withLeaves(1, 1, 1, 1, 1, 1);
+        LeafMatches x = Sample.leaves(1, 1, 1, 1, 1, 1);
         Check.is("for none as at first", x.reserve(2, 0), false);
         Check.is("for an order", x.reserve(0, 1000), true);
         Check.is("for the same", x.reserve(0, 1000), false);
@@ -202,7 +163,7 @@ public final class PromisesTest {
         Check.throwsJust("order -1", Check.ARGUMENT, () -> x.reserve(0, -1));
         Check.is("wrong calls left it", x.reserve(0, 1), false);
         Check.is("match past the reserved one", x.match(BOOK, 2), 0);
-        Check.is("without it", places(x, 0, 0), "1 2");
+        Check.is("without it", Sample.places(x, 0, 0), "1 2");
         Check.throwsJust("used", Check.STATE, () -> x.reserve(1, 1));
         Check.throwsJust("used before order", Check.STATE, () -> x.reserve(1, 1001));
         Check.is("the reserved one still", x.reserve(0, 0), true);
@@ -232,9 +193,9 @@ public final class PromisesTest {
         for (int i = 2; i < 8; i++) {
             Check.is("face " + i, x.match(i % 3, 2), i);
         }
-        Check.is("the first one's leaves", places(x, 0, 0), "0 1 2 3 4 5 6 7");
-        Check.is("the diamond's leaves", places(x, 1, 0), "8 9 10 11");
-        Check.is("the next flitch", places(x, 4, 0), "16 17");
+        Check.is("the first one's leaves", Sample.places(x, 0, 0), "0 1 2 3 4 5 6 7");
+        Check.is("the diamond's leaves", Sample.places(x, 1, 0), "8 9 10 11");
+        Check.is("the next flitch", Sample.places(x, 4, 0), "16 17");
         Check.throwsJust("9th face", Check.STATE, () -> x.match(BOOK, 2));
         Check.throwsJust("9th face, kind wrong", Check.STATE, () -> x.match(4, 0));
         LeafMatches none = new LeafMatches();
@@ -249,21 +210,21 @@ public final class PromisesTest {
         x.leaf(2, 6, 1, 1);
         x.leaf(1, 3, 1, 1);
         Check.is("the flitch that has two", x.match(BOOK, 2), 0);
-        Check.is("by their numbers", places(x, 0, 0), "1 2");
+        Check.is("by their numbers", Sample.places(x, 0, 0), "1 2");
         x.leaf(1, 5, 1, 1);
         Check.is("broken", x.match(BOOK, 2), NONE);
         Check.is("broken uses none", x.reserve(3, 0), false);
         x.leaf(1, 4, 1, 1);
         x.leaf(1, 9, 1, 1);
         Check.is("only the first n count", x.match(SLIP, 3), 1);
-        Check.is("by their numbers again", places(x, 1, 0), "3 5 4");
+        Check.is("by their numbers again", Sample.places(x, 1, 0), "3 5 4");
         x.leaf(2, 8, 1, 1);
         Check.is("past a flitch with one", x.match(SLIP, 2), 2);
-        Check.is("its leaves", places(x, 2, 0), "0 7");
+        Check.is("its leaves", Sample.places(x, 2, 0), "0 7");
         x.apart(2);
         x.reserve(7, 1);
         Check.throwsJust("a reserved one is not counted", Check.STATE, () -> x.match(SLIP, 2));
-        LeafMatches y = withLeaves(1, 1, 1, 1, 1, 1);
+        LeafMatches y = Sample.leaves(1, 1, 1, 1, 1, 1);
         y.reserve(1, 1);
         y.leaf(1, 0, 1, 1);
         y.leaf(1, 1, 1, 1);
@@ -271,7 +232,7 @@ public final class PromisesTest {
     }
 
     private static void promise6Apart() {
-        LeafMatches x = withLeaves(1, 1, 1, 1, 1, 1, 1, 1, 1, 1, 1, 1, 1, 1);
+        LeafMatches x = Sample.leaves(1, 1, 1, 1, 1, 1, 1, 1, 1, 1, 1, 1, 1, 1);
         x.match(BOOK, 2);
         x.match(SLIP, 3);
         x.match(REVERSED, 2);
@@ -282,7 +243,7 @@ public final class PromisesTest {
         Check.is("the one behind moves up", x.about(1, 3), REVERSED);
         Check.throwsJust("no third", Check.INDEX, () -> x.about(2, 3));
         Check.is("its leaves are free", x.match(BOOK, 3), 2);
-        Check.is("the same leaves", places(x, 2, 0), "2 3 4");
+        Check.is("the same leaves", Sample.places(x, 2, 0), "2 3 4");
         Check.is("one", x.apart(0), 2);
         Check.is("two", x.apart(1), 1);
         Check.is("three", x.apart(0), 0);
@@ -303,24 +264,24 @@ public final class PromisesTest {
         Check.throwsJust("face 8", Check.INDEX, () -> x.apart(8));
         Check.throwsJust("about face 8", Check.INDEX, () -> x.about(8, 0));
         Check.is("the first of eight", x.apart(0), 7);
-        Check.is("the last one moved up", places(x, 6, 0), "28 29 30 31");
+        Check.is("the last one moved up", Sample.places(x, 6, 0), "28 29 30 31");
         Check.throwsJust("no eighth", Check.INDEX, () -> x.about(7, 0));
         Check.is("room for one more", x.match(BOOK, 4), 7);
         Check.is("the last of eight", x.apart(7), 7);
     }
 
     private static void promise7PlaceByKind() {
-        LeafMatches x = withLeaves(2, 1, 3, 1, 4, 1, 5, 1);
+        LeafMatches x = Sample.leaves(2, 1, 3, 1, 4, 1, 5, 1);
         int[] kinds = {BOOK, SLIP, REVERSED};
         String[] mirrors = {"0 1 0 1", "0 0 0 0", "0 0 0 0"};
         String[] turns = {"0 0 0 0", "0 0 0 0", "0 1 0 1"};
         for (int kind : kinds) {
             x.match(kind, 4);
-            Check.is("leaves of " + kind, places(x, 0, 0), "0 1 2 3");
-            Check.is("mirrored of " + kind, places(x, 0, 1), mirrors[kind]);
-            Check.is("turned of " + kind, places(x, 0, 2), turns[kind]);
-            Check.is("across of " + kind, places(x, 0, 3), "0 2 5 9");
-            Check.is("tops of " + kind, places(x, 0, 4), "0 0 0 0");
+            Check.is("leaves of " + kind, Sample.places(x, 0, 0), "0 1 2 3");
+            Check.is("mirrored of " + kind, Sample.places(x, 0, 1), mirrors[kind]);
+            Check.is("turned of " + kind, Sample.places(x, 0, 2), turns[kind]);
+            Check.is("across of " + kind, Sample.places(x, 0, 3), "0 2 5 9");
+            Check.is("tops of " + kind, Sample.places(x, 0, 4), "0 0 0 0");
             x.apart(0);
         }
         x.match(SLIP, 2);
@@ -334,10 +295,10 @@ public final class PromisesTest {
 
     /** Piece 1's figure lies a row lower than piece 0's, piece 2's two rows lower than piece 1's. */
     private static LeafMatches shiftedSlip() {
-        LeafMatches x = withLeaves(1, 6, 1, 6, 1, 6);
-        column(x, 0, 0, 240, 5, 0, 250, 255, 0);
-        column(x, 1, 0, 255, 240, 5, 0, 250, 255);
-        column(x, 2, 0, 0, 10, 255, 240, 5, 0);
+        LeafMatches x = Sample.leaves(1, 6, 1, 6, 1, 6);
+        Sample.column(x, 0, 0, 240, 5, 0, 250, 255, 0);
+        Sample.column(x, 1, 0, 255, 240, 5, 0, 250, 255);
+        Sample.column(x, 2, 0, 0, 10, 255, 240, 5, 0);
         x.match(SLIP, 3);
         return x;
     }
@@ -346,23 +307,23 @@ public final class PromisesTest {
         LeafMatches x = shiftedSlip();
         Check.is("shift 0", x.seam(0, 0), -1);
         Check.is("shift 1", x.seam(0, 1), -2);
-        Check.is("tops add up", places(x, 0, 4), "0 -1 -3");
-        column(x, 1, 0, 240, 5, 0, 250, 255, 0);
+        Check.is("tops add up", Sample.places(x, 0, 4), "0 -1 -3");
+        Sample.column(x, 1, 0, 240, 5, 0, 250, 255, 0);
         Check.is("by the greys as they are", x.place(0, 1, 4), 0);
-        column(x, 1, 0, 5, 0, 250, 255, 0, 100);
+        Sample.column(x, 1, 0, 5, 0, 250, 255, 0, 100);
         Check.is("lower", x.place(0, 1, 4), 1);
     }
 
     private static void promise7PlaceDiamond() {
-        LeafMatches x = withLeaves(2, 4, 3, 4, 3, 3, 5, 5);
-        column(x, 0, 1, 0, 255, 0, 255);
-        column(x, 1, 2, 100, 0, 255, 0);
+        LeafMatches x = Sample.leaves(2, 4, 3, 4, 3, 3, 5, 5);
+        Sample.column(x, 0, 1, 0, 255, 0, 255);
+        Sample.column(x, 1, 2, 100, 0, 255, 0);
         x.match(DIAMOND, 4);
-        Check.is("diamond: leaves", places(x, 0, 0), "0 1 2 3");
-        Check.is("diamond: mirrored", places(x, 0, 1), "0 1 0 1");
-        Check.is("diamond: turned", places(x, 0, 2), "0 0 1 1");
-        Check.is("diamond: across", places(x, 0, 3), "0 2 0 2");
-        Check.is("diamond: tops", places(x, 0, 4), "0 0 4 4");
+        Check.is("diamond: leaves", Sample.places(x, 0, 0), "0 1 2 3");
+        Check.is("diamond: mirrored", Sample.places(x, 0, 1), "0 1 0 1");
+        Check.is("diamond: turned", Sample.places(x, 0, 2), "0 0 1 1");
+        Check.is("diamond: across", Sample.places(x, 0, 3), "0 2 0 2");
+        Check.is("diamond: tops", Sample.places(x, 0, 4), "0 0 4 4");
         Check.is("diamond: its shift is told", x.seam(0, 0), -1);
     }
 
@@ -404,7 +365,7 @@ public final class PromisesTest {
     }
 
     private static void promise8AtDiamond() {
-        LeafMatches x = withLeaves(2, 2, 2, 4, 3, 2, 2, 2);
+        LeafMatches x = Sample.leaves(2, 2, 2, 4, 3, 2, 2, 2);
         for (int leaf = 0; leaf < 4; leaf++) {
             int height = leaf == 1 ? 4 : 2;
             int width = leaf == 2 ? 3 : 2;
@@ -420,10 +381,10 @@ public final class PromisesTest {
         Check.is("2 turned", "" + x.at(0, 0, 2) + " " + x.at(0, 1, 3), "120 111");
         Check.is("1 before 2 and 3", "" + x.at(0, 2, 2) + " " + x.at(0, 3, 3), "81 90");
         Check.is("below", x.at(0, 0, 4), NONE);
-        LeafMatches y = withLeaves(1, 1, 1, 1, 3, 1, 2, 2);
-        column(y, 2, 2, 77);
-        column(y, 3, 0, 1, 2);
-        column(y, 3, 1, 3, 4);
+        LeafMatches y = Sample.leaves(1, 1, 1, 1, 3, 1, 2, 2);
+        Sample.column(y, 2, 2, 77);
+        Sample.column(y, 3, 0, 1, 2);
+        Sample.column(y, 3, 1, 3, 4);
         y.match(DIAMOND, 4);
         Check.is("2 before 3", y.at(0, 2, 1), 77);
         Check.is("3 both", "" + y.at(0, 1, 2) + " " + y.at(0, 2, 2), "3 1");
@@ -440,18 +401,18 @@ public final class PromisesTest {
         Check.throwsJust("what -1", Check.ARGUMENT, () -> x.about(0, -1));
         Check.throwsJust("face before what", Check.INDEX, () -> x.about(1, 4));
         Check.throwsJust("face -1", Check.INDEX, () -> x.about(-1, 0));
-        LeafMatches tall = withLeaves(12, 2, 12, 12);
+        LeafMatches tall = Sample.leaves(12, 2, 12, 12);
         tall.match(REVERSED, 2);
         Check.is("across of the widest", tall.about(0, 0), 24);
         Check.is("down of the taller", tall.about(0, 1), 12);
         Check.is("kind REVERSED", tall.about(0, 3), REVERSED);
-        LeafMatches wide = withLeaves(1, 2, 2, 1, 9, 3, 3, 4);
+        LeafMatches wide = Sample.leaves(1, 2, 2, 1, 9, 3, 3, 4);
         wide.match(DIAMOND, 4);
         Check.is("diamond: a wide piece 2", wide.about(0, 0), 9);
         Check.is("diamond: piece 3's bottom", wide.about(0, 1), 6);
         Check.is("diamond: pieces", wide.about(0, 2), 4);
         Check.is("diamond: kind", wide.about(0, 3), DIAMOND);
-        LeafMatches long1 = withLeaves(2, 1, 5, 9, 1, 1, 6, 2);
+        LeafMatches long1 = Sample.leaves(2, 1, 5, 9, 1, 1, 6, 2);
         long1.match(DIAMOND, 4);
         Check.is("diamond: piece 3's end", long1.about(0, 0), 8);
         Check.is("diamond: a long piece 1", long1.about(0, 1), 9);
@@ -459,7 +420,7 @@ public final class PromisesTest {
 
     private static void promise10Seam() {
         for (int shift = -3; shift <= 3; shift++) {
-            LeafMatches x = withLeaves(1, 12, 1, 12);
+            LeafMatches x = Sample.leaves(1, 12, 1, 12);
             String figure = "000101111110100010";
             for (int y = 0; y < 12; y++) {
                 x.pixel(0, 0, y, 255 * (figure.charAt(y + 3) - '0'));
@@ -468,25 +429,25 @@ public final class PromisesTest {
             x.match(SLIP, 2);
             Check.is("seam of " + shift, x.seam(0, 0), shift);
         }
-        LeafMatches x = withLeaves(1, 3, 1, 9, 1, 3, 1, 3);
+        LeafMatches x = Sample.leaves(1, 3, 1, 9, 1, 3, 1, 3);
         x.match(BOOK, 4);
         Check.is("alike: 0 first", x.seam(0, 0), 0);
-        column(x, 0, 0, 10, 10, 10);
-        column(x, 1, 0, 0, 0, 9, 0, 9, 9, 9, 9, 9);
+        Sample.column(x, 0, 0, 10, 10, 10);
+        Sample.column(x, 1, 0, 0, 0, 9, 0, 9, 9, 9, 9, 9);
         Check.is("-2 and -3 alike", x.sum(0, 0, -3), x.sum(0, 0, -2));
         Check.is("-2 before -3", x.seam(0, 0), -2);
         Check.throwsJust("seam 3", Check.INDEX, () -> x.seam(0, 3));
         Check.throwsJust("seam -1", Check.INDEX, () -> x.seam(0, -1));
         Check.throwsJust("face 1", Check.INDEX, () -> x.seam(1, 0));
-        LeafMatches both = withLeaves(1, 2, 1, 4);
-        column(both, 0, 0, 100, 100);
-        column(both, 1, 0, 0, 100, 100, 0);
+        LeafMatches both = Sample.leaves(1, 2, 1, 4);
+        Sample.column(both, 0, 0, 100, 100);
+        Sample.column(both, 1, 0, 0, 100, 100, 0);
         both.match(SLIP, 2);
         Check.is("up", both.seam(0, 0), -1);
-        column(both, 0, 0, 255, 255);
-        column(both, 1, 0, 0, 0, 0, 0);
+        Sample.column(both, 0, 0, 255, 255);
+        Sample.column(both, 1, 0, 0, 0, 0, 0);
         Check.is("all alike where rows meet", both.seam(0, 0), 0);
-        column(both, 1, 0, 0, 10, 20, 20);
+        Sample.column(both, 1, 0, 0, 10, 20, 20);
         Check.is("the least of all", both.seam(0, 0), -2);
         promise10SeveralLeast();
         promise10Diamond();
@@ -504,7 +465,7 @@ public final class PromisesTest {
     }
 
     private static void several(String left, String right, int due, int other) {
-        LeafMatches x = withLeaves(1, left.length(), 1, right.length());
+        LeafMatches x = Sample.leaves(1, left.length(), 1, right.length());
         for (int y = 0; y < left.length(); y++) {
             x.pixel(0, 0, y, 255 * (left.charAt(y) - '0'));
         }
@@ -517,9 +478,9 @@ public final class PromisesTest {
     }
 
     private static void promise10Diamond() {
-        LeafMatches x = withLeaves(2, 3, 2, 3, 2, 3, 2, 3);
-        column(x, 2, 1, 1, 100, 200);
-        column(x, 3, 1, 100, 200, 7);
+        LeafMatches x = Sample.leaves(2, 3, 2, 3, 2, 3, 2, 3);
+        Sample.column(x, 2, 1, 1, 100, 200);
+        Sample.column(x, 3, 1, 100, 200, 7);
         x.match(DIAMOND, 4);
         Check.is("diamond seam 0", x.seam(0, 0), 0);
         Check.is("diamond seam 1, turned", x.seam(0, 1), -1);
@@ -532,12 +493,12 @@ public final class PromisesTest {
     }
 
     private static void promise11Sum() {
-        LeafMatches x = withLeaves(2, 3, 2, 2, 2, 3);
-        column(x, 0, 0, 1, 1, 1);
-        column(x, 0, 1, 10, 20, 30);
-        column(x, 1, 0, 200, 100);
-        column(x, 1, 1, 15, 40);
-        column(x, 2, 0, 0, 50, 255);
+        LeafMatches x = Sample.leaves(2, 3, 2, 2, 2, 3);
+        Sample.column(x, 0, 0, 1, 1, 1);
+        Sample.column(x, 0, 1, 10, 20, 30);
+        Sample.column(x, 1, 0, 200, 100);
+        Sample.column(x, 1, 1, 15, 40);
+        Sample.column(x, 2, 0, 0, 50, 255);
         x.match(BOOK, 3);
         Check.is("0", x.sum(0, 0, 0), 5L + 20 + 255);
         Check.is("1", x.sum(0, 0, 1), 255L + 5 + 10);
@@ -565,9 +526,9 @@ public final class PromisesTest {
     }
 
     private static void promise12Mirrored() {
-        LeafMatches x = withLeaves(2, 2, 2, 2, 2, 2);
-        column(x, 0, 1, 5, 6);
-        column(x, 1, 1, 5, 6);
+        LeafMatches x = Sample.leaves(2, 2, 2, 2, 2, 2);
+        Sample.column(x, 0, 1, 5, 6);
+        Sample.column(x, 1, 1, 5, 6);
         x.match(BOOK, 3);
         Check.is("true at 0", x.mirrored(0, 0), true);
         Check.is("true at 1", x.mirrored(0, 1), true);
@@ -577,13 +538,13 @@ public final class PromisesTest {
         Check.throwsJust("seam 2", Check.INDEX, () -> x.mirrored(0, 2));
         Check.throwsJust("seam -1", Check.INDEX, () -> x.mirrored(0, -1));
         Check.throwsJust("face 1", Check.INDEX, () -> x.mirrored(1, 0));
-        LeafMatches shifted = withLeaves(1, 1, 1, 2);
-        column(shifted, 0, 0, 9);
-        column(shifted, 1, 0, 0, 9);
+        LeafMatches shifted = Sample.leaves(1, 1, 1, 2);
+        Sample.column(shifted, 0, 0, 9);
+        Sample.column(shifted, 1, 0, 0, 9);
         shifted.match(SLIP, 2);
         Check.is("a sum of 0 at another shift", shifted.sum(0, 0, -1), 0L);
         Check.is("is not true", shifted.mirrored(0, 0), false);
-        LeafMatches tall = withLeaves(1, 2, 1, 1);
+        LeafMatches tall = Sample.leaves(1, 2, 1, 1);
         tall.match(SLIP, 2);
         Check.is("a row that meets none", tall.mirrored(0, 0), false);
     }
@@ -628,14 +589,14 @@ public final class PromisesTest {
         x.match(BOOK, 4);
         x.match(SLIP, 4);
         x.match(REVERSED, 4);
-        Check.is("diamond 0", written(x, 0, 0), "F1D997");
-        Check.is("diamond 1", written(x, 0, 1), "F1D998m");
-        Check.is("diamond 2", written(x, 0, 2), "F1D999t");
-        Check.is("diamond 3", written(x, 0, 3), "F1D1000mt");
-        Check.is("book 0", written(x, 1, 0), "F2B10");
-        Check.is("book 1", written(x, 1, 1), "F2B11m");
-        Check.is("slip 0", written(x, 2, 0), "F3S0");
-        Check.is("reversed 1", written(x, 3, 1), "F4R101t");
+        Check.is("diamond 0", Sample.written(x, 0, 0), "F1D997");
+        Check.is("diamond 1", Sample.written(x, 0, 1), "F1D998m");
+        Check.is("diamond 2", Sample.written(x, 0, 2), "F1D999t");
+        Check.is("diamond 3", Sample.written(x, 0, 3), "F1D1000mt");
+        Check.is("book 0", Sample.written(x, 1, 0), "F2B10");
+        Check.is("book 1", Sample.written(x, 1, 1), "F2B11m");
+        Check.is("slip 0", Sample.written(x, 2, 0), "F3S0");
+        Check.is("reversed 1", Sample.written(x, 3, 1), "F4R101t");
         Check.is("behind it", x.number(0, 3, 9), NONE);
         Check.is("far behind it", x.number(0, 3, GREATEST), NONE);
         Check.throwsJust("i -1", Check.ARGUMENT, () -> x.number(0, 0, -1));
@@ -643,7 +604,7 @@ public final class PromisesTest {
         Check.throwsJust("piece -1", Check.INDEX, () -> x.number(0, -1, 0));
         Check.throwsJust("face 4", Check.INDEX, () -> x.number(4, 0, 0));
         x.apart(0);
-        Check.is("the face's number as it is", written(x, 0, 1), "F1B11m");
+        Check.is("the face's number as it is", Sample.written(x, 0, 1), "F1B11m");
     }
 
     private static void promise15Want() {
@@ -661,7 +622,7 @@ public final class PromisesTest {
     }
 
     private static void promise16Clear() {
-        LeafMatches x = withLeaves(3, 1);
+        LeafMatches x = Sample.leaves(3, 1);
         x.want(50);
         x.want(2);
         Check.is("no way", x.faces(0), NONE);
@@ -732,7 +693,7 @@ public final class PromisesTest {
         x.want(8);
         x.want(3);
         Check.is("loss", x.faces(0), 1);
-        Check.is("plan", plan(x, 3), "3+1 1+2 0+1");
+        Check.is("plan", Sample.plan(x, 3), "3+1 1+2 0+1");
         Check.throwsJust("face wanted 3", Check.INDEX, () -> x.planned(3, 0));
         Check.throwsJust("face wanted -1", Check.INDEX, () -> x.planned(-1, 5));
         Check.throwsJust("what 2", Check.ARGUMENT, () -> x.planned(0, 2));
@@ -744,29 +705,29 @@ public final class PromisesTest {
     }
 
     private static void promise18PlannedOfSeveral() {
-        LeafMatches x = withLeaves(2, 1, 2, 1, 2, 1, 2, 1, 2, 1);
+        LeafMatches x = Sample.leaves(2, 1, 2, 1, 2, 1, 2, 1, 2, 1);
         x.want(2);
         x.want(4);
         x.want(2);
         Check.is("loss", x.faces(0), 0);
-        Check.is("the lesser ones first, none last", plan(x, 3), "0+1 1+2 3+1");
-        LeafMatches y = withLeaves(3, 1, 2, 1, 1, 1, 2, 1);
+        Check.is("the lesser ones first, none last", Sample.plan(x, 3), "0+1 1+2 3+1");
+        LeafMatches y = Sample.leaves(3, 1, 2, 1, 1, 1, 2, 1);
         y.want(2);
-        Check.is("the first of the least", y.faces(0) + " " + plan(y, 1), "0 1+1");
+        Check.is("the first of the least", y.faces(0) + " " + Sample.plan(y, 1), "0 1+1");
         y.want(1);
-        Check.is("both", y.faces(0) + " " + plan(y, 2), "0 1+1 2+1");
-        LeafMatches z = withLeaves(2, 1, 1, 1, 1, 1, 2, 1);
+        Check.is("both", y.faces(0) + " " + Sample.plan(y, 2), "0 1+1 2+1");
+        LeafMatches z = Sample.leaves(2, 1, 1, 1, 1, 1, 2, 1);
         z.want(3);
         z.want(2);
-        Check.is("the lesser one begins, though the other could", z.faces(0) + " " + plan(z, 2), "0 0+2 3+1");
-        LeafMatches w = withLeaves(1, 1, 1, 1, 1, 1);
+        Check.is("the lesser one begins, though the other could", z.faces(0) + " " + Sample.plan(z, 2), "0 0+2 3+1");
+        LeafMatches w = Sample.leaves(1, 1, 1, 1, 1, 1);
         w.want(2);
         w.want(1);
-        Check.is("row by row", w.faces(0) + " " + plan(w, 2), "0 0+2 2+1");
+        Check.is("row by row", w.faces(0) + " " + Sample.plan(w, 2), "0 0+2 2+1");
     }
 
     private static LeafMatches withPlan() {
-        LeafMatches x = withLeaves(2, 1, 2, 1, 2, 1);
+        LeafMatches x = Sample.leaves(2, 1, 2, 1, 2, 1);
         x.leaf(1, 0, 1, 1);
         x.match(SLIP, 2);
         x.want(2);
@@ -776,39 +737,39 @@ public final class PromisesTest {
 
     private static void promise18PlannedSince() {
         LeafMatches kept = withPlan();
-        Check.is("found", plan(kept, 1), "2+1");
+        Check.is("found", Sample.plan(kept, 1), "2+1");
         kept.pixel(2, 0, 0, 40);
-        Check.is("greys leave it", plan(kept, 1), "2+1");
+        Check.is("greys leave it", Sample.plan(kept, 1), "2+1");
         Check.is("no way in another flitch", kept.faces(1), NONE);
-        Check.is("the latest that found one", plan(kept, 1), "2+1");
+        Check.is("the latest that found one", Sample.plan(kept, 1), "2+1");
         Check.throwsJust("reserve throws", Check.INDEX, () -> kept.reserve(9, 1));
         Check.throwsJust("want throws", Check.ARGUMENT, () -> kept.want(0));
         Check.throwsJust("leaf throws", Check.STATE, () -> kept.leaf(0, 0, 1, 1));
         Check.throwsJust("match throws", Check.STATE, () -> kept.match(BOOK, 2));
         Check.throwsJust("apart throws", Check.INDEX, () -> kept.apart(1));
-        Check.is("what throws leaves it", plan(kept, 1), "2+1");
+        Check.is("what throws leaves it", Sample.plan(kept, 1), "2+1");
         gone("leaf", x -> x.leaf(3, 3, 1, 1));
         gone("reserve", x -> x.reserve(3, 1));
         gone("reserve for the same", x -> x.reserve(3, 0));
         gone("apart", x -> x.apart(0));
         gone("want", x -> x.want(1));
         gone("clear", x -> x.clear());
-        LeafMatches matched = withLeaves(1, 1, 1, 1, 1, 1);
+        LeafMatches matched = Sample.leaves(1, 1, 1, 1, 1, 1);
         matched.want(1);
         matched.faces(0);
         matched.match(BOOK, 2);
         Check.throwsJust("match", Check.STATE, () -> matched.planned(0, 0));
-        LeafMatches broken = withLeaves(1, 1, 1, 1, 1, 1);
+        LeafMatches broken = Sample.leaves(1, 1, 1, 1, 1, 1);
         broken.reserve(1, 1);
         broken.want(1);
         broken.faces(0);
         Check.is("a match that makes none", broken.match(BOOK, 2), NONE);
-        Check.is("leaves the plan", plan(broken, 1), "0+1");
+        Check.is("leaves the plan", Sample.plan(broken, 1), "0+1");
         LeafMatches other = withPlan();
         other.leaf(1, 1, 2, 1);
         other.faces(0);
         other.faces(1);
-        Check.is("the latest of two", plan(other, 1), "4+1");
+        Check.is("the latest of two", Sample.plan(other, 1), "4+1");
     }
 
     private interface Telling {
