@@ -1,11 +1,3 @@
-import java.lang.reflect.Constructor;
-import java.lang.reflect.Field;
-import java.lang.reflect.Method;
-import java.lang.reflect.Modifier;
-import java.util.ArrayList;
-import java.util.Collections;
-import java.util.List;
-
 /** Each promise of the document: ordinary inputs, its edges, wrong inputs. */
 public final class PromisesTest {
     private static final int NONE = LeafMatches.NONE;
@@ -17,7 +9,6 @@ public final class PromisesTest {
     private static final int GREATEST = Integer.MAX_VALUE;
 
     public static void main(String[] args) {
-        theFace();
         promise1NewObject();
         promise2Leaf();
         promise3Pixel();
@@ -62,29 +53,6 @@ public final class PromisesTest {
 
     private static int distinctGrey(int leaf, int c, int y) {
         return 1 + leaf * 6 + y * 2 + c;
-    }
-
-    private static void theFace() {
-        Check.is("NONE", LeafMatches.NONE, -1);
-        Check.is("kinds", "" + BOOK + SLIP + REVERSED + DIAMOND, "0123");
-        Check.is("final", Modifier.isFinal(LeafMatches.class.getModifiers()), true);
-        List<String> open = new ArrayList<>();
-        for (Method m : LeafMatches.class.getDeclaredMethods()) {
-            if (!Modifier.isPrivate(m.getModifiers()) && !m.isSynthetic()) {
-                open.add(m.getName());
-            }
-        }
-        for (Field f : LeafMatches.class.getDeclaredFields()) {
-            if (!Modifier.isPrivate(f.getModifiers())) {
-                open.add(f.getName());
-            }
-        }
-        for (Constructor<?> c : LeafMatches.class.getDeclaredConstructors()) {
-            open.add("new" + c.getParameterCount());
-        }
-        Collections.sort(open);
-        Check.is("open members", open.toString(), "[BOOK, DIAMOND, NONE, REVERSED, SLIP, about, apart, at, balance,"
-                + " clear, faces, leaf, match, mirrored, new0, number, pixel, place, planned, reserve, seam, sum, want]");
     }
 
     private static void promise1NewObject() {
